@@ -231,7 +231,7 @@ public final class UnifyBench {
         }
     }
 
-    /** The names that every object knows, in the order of their numbers in Names; a level of 0 is none. */
+    /** The names that every object knows. Their order is that of their numbers in Names; a level of 0 is none. */
     private enum Known {
         EMPTY("[]", 0, 0, 0, 0),
         DOT(".", 0, 0, 0, 0),
@@ -700,10 +700,10 @@ public final class UnifyBench {
             return newNode(INTEGER, number);
         }
 
-        int compound(int name, Ints values, int howMany) {
+        int compound(int name, Ints stack, int howMany) {
             int node = newNode(howMany, name);
-            for (int i = values.size() - howMany; i < values.size(); i++) {
-                parts.push(values.at(i));
+            for (int i = stack.size() - howMany; i < stack.size(); i++) {
+                parts.push(stack.at(i));
             }
             return node;
         }
