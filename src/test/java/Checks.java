@@ -1,9 +1,13 @@
+import java.nio.ByteBuffer;
+import java.nio.IntBuffer;
 import java.nio.charset.StandardCharsets;
+import java.util.Arrays;
 
 /** What the tests share: checks that are counted, and a bench that takes texts. */
 final class Checks {
     private static int made = 0;
     private static int wrong = 0;
+    private static String sentence = "";
 
     private Checks() {
     }
@@ -25,12 +29,17 @@ final class Checks {
         made++;
         if (!want.equals(got)) {
             wrong++;
-            System.out.println(call + " answered " + got + ", due is " + want);
+            System.out.println(sentence + call + " answered " + got + ", due is " + want);
         }
     }
 
     static void due(String call, Object want, Call got) {
         due(call, want, outcome(got));
+    }
+
+    /** Names the sentence of the document that the next checks are for. */
+    static void sentence(String words) {
+        sentence = "\"" + words + "\": ";
     }
 
     /** Ends the test: exit code 1 if something was wrong. */
@@ -41,22 +50,23 @@ final class Checks {
         }
     }
 
+    /** Puts the text on the tape. The odd bytes come first, so that one of 4096 fits, too. */
     static void load(UnifyBench bench, String text) {
         byte[] bytes = text.getBytes(StandardCharsets.ISO_8859_1);
-        // What is over 4080 bytes can't come in whole feeds of 20.
-        if (bytes.length > 4080) {
-            throw new IllegalArgumentException("too long for the tape");
-        }
+        int odd = bytes.length % 20;
         bench.end(0);
-        for (int i = 0; i < bytes.length; i += 20) {
-            int[] five = new int[5];
-            for (int k = 0; k < 20; k++) {
-                int b = i + k < bytes.length ? bytes[i + k] & 255 : 0;
-                five[k / 4] = five[k / 4] << 8 | b;
-            }
-            bench.feed(five[0], five[1], five[2], five[3], five[4]);
+        if (odd > 0) {
+            feed(bench, Arrays.copyOf(bytes, 20));
+            bench.end(odd);
         }
-        bench.end(bytes.length);
+        for (int i = odd; i < bytes.length; i += 20) {
+            feed(bench, Arrays.copyOfRange(bytes, i, i + 20));
+        }
+    }
+
+    private static void feed(UnifyBench bench, byte[] bytes) {
+        IntBuffer five = ByteBuffer.wrap(bytes).asIntBuffer();
+        bench.feed(five.get(0), five.get(1), five.get(2), five.get(3), five.get(4));
     }
 
     static Object read(UnifyBench bench, int r, String text) {
@@ -94,5 +104,31 @@ final class Checks {
 
     static String repeated(String text, int times) {
         return text.repeat(times);
+    }
+
+    /** A new bench with the texts read into registers 0, 1 and so on. */
+    static UnifyBench bench(String... texts) {
+        UnifyBench bench = new UnifyBench();
+        for (int r = 0; r < texts.length; r++) {
+            due("read of " + texts[r], true, read(bench, r, texts[r]) instanceof Integer);
+        }
+        return bench;
+    }
+
+    static void reads(String text, String printed, int symbols) {
+        UnifyBench bench = new UnifyBench();
+        due("read of " + text, symbols, read(bench, 3, text));
+        due("place behind " + text, -1, bench.count(2));
+        due("tape behind " + text, 0, bench.count(0));
+        due("print of " + text, printed, printed(bench, 3));
+    }
+
+    static void breaks(String text, int place) {
+        UnifyBench bench = new UnifyBench();
+        read(bench, 3, "kept.");
+        due("read of " + text, "throws.UnsupportedOperationException", read(bench, 3, text));
+        due("place behind " + text, place, bench.count(2));
+        due("tape behind " + text, 0, bench.count(0));
+        due("register behind " + text, "kept", printed(bench, 3));
     }
 }

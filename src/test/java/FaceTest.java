@@ -45,15 +45,23 @@ public final class FaceTest {
 
     /** 400000 symbols can't come in 512 calls; the limit holds all the same. */
     private static void beyondItsCalls() {
+        Checks.sentence("400000 SYMBOLS of all TERMS since the beginning or the latest reset: IndexOutOfBoundsException");
         UnifyBench bench = new UnifyBench();
-        String text = "[" + Checks.repeated("a,", 498) + "a|-a].";
-        for (int i = 0; i < 400; i++) {
-            Checks.due("read " + i, 1000, Checks.read(bench, i % 8, text));
+        String list = "[" + Checks.repeated("a,", 498) + "a|-a]";
+        for (int turn = 0; turn < 2; turn++) {
+            for (int i = 0; i < 399; i++) {
+                Checks.due("read " + i, 1000, Checks.read(bench, i % 8, list + "."));
+            }
+            Checks.due("broken ones do not count", "throws.UnsupportedOperationException", Checks.read(bench, 0, list + ")."));
+            Checks.due("to 399999", 999, Checks.read(bench, 1, list.replace("-a", "a") + "."));
+            Checks.due("to 400001", "throws.IndexOutOfBoundsException", Checks.read(bench, 0, "-a."));
+            Checks.due("no place", -1, bench.count(2));
+            Checks.due("to 400000", 1, Checks.read(bench, 0, "b."));
+            Checks.due("to 400001", "throws.IndexOutOfBoundsException", Checks.read(bench, 0, "c."));
+            Checks.due("register stays", "b", Checks.printed(bench, 0));
+            Checks.due("the same", true, bench.same(2, 7));
+            Checks.due("another", false, bench.same(1, 7));
+            bench.reset();
         }
-        Checks.due("read of one more", "throws.IndexOutOfBoundsException", Checks.read(bench, 0, "b."));
-        Checks.due("no place", -1, bench.count(2));
-        Checks.due("the same", true, bench.same(0, 7));
-        bench.reset();
-        Checks.due("read again", 1, Checks.read(bench, 0, "b."));
     }
 }

@@ -29,12 +29,7 @@ public final class PromisesTest {
     }
 
     private static UnifyBench bench(String... texts) {
-        UnifyBench bench = new UnifyBench();
-        for (int r = 0; r < texts.length; r++) {
-            Object read = Checks.read(bench, r, texts[r]);
-            Checks.due("read of " + texts[r], true, read instanceof Integer);
-        }
-        return bench;
+        return Checks.bench(texts);
     }
 
     private static void promise1NewObject() {

@@ -17,20 +17,11 @@ public final class ReadingTest {
     }
 
     private static void reads(String text, String printed, int symbols) {
-        UnifyBench bench = new UnifyBench();
-        Checks.due("read of " + text, symbols, Checks.read(bench, 3, text));
-        Checks.due("place behind " + text, -1, bench.count(2));
-        Checks.due("tape behind " + text, 0, bench.count(0));
-        Checks.due("print of " + text, printed, Checks.printed(bench, 3));
+        Checks.reads(text, printed, symbols);
     }
 
     private static void breaks(String text, int place) {
-        UnifyBench bench = new UnifyBench();
-        Checks.read(bench, 3, "kept.");
-        Checks.due("read of " + text, "throws.UnsupportedOperationException", Checks.read(bench, 3, text));
-        Checks.due("place behind " + text, place, bench.count(2));
-        Checks.due("tape behind " + text, 0, bench.count(0));
-        Checks.due("register behind " + text, "kept", Checks.printed(bench, 3));
+        Checks.breaks(text, place);
     }
 
     private static void signs() {
