@@ -203,9 +203,10 @@ public final class CallsEdgesTest {
     }
 
     private static void printedNames() {
-        Checks.sentence("ATOMS and NAMES as they are, if they could be read so as one sign (but '.', which is in ' '), else in ' '");
-        List<String> names = new ArrayList<>(List.of("", "[]", ".", "..", "[ ]", "{}", "()", "A", "_", "_a", "1", "-1", "a b", " a",
-                "a ", "%", "a%", "\"", "[]a", "[", "]", "(", ")", "{", "}", ",", "|", "||", "zZ_09", "9z", "+a", "a+", "!!", ";;", "!;"));
+        Checks.sentence("ATOMS and NAMES as they are, if they could be read so as one sign (but '.', which is in ' '),"
+                + " else in ' '");
+        List<String> names = new ArrayList<>(List.of("", "[]", ".", "..", "[ ]", "{}", "()", "_a", "-1", "a b", " a", "a ",
+                "a%", "[]a", "||", "zZ_09", "9z", "+a", "a+", "!!", ";;", "!;", "'''", "a'b"));
         for (String first : new String[] {"", "a", "=", ".", "!", "["}) {
             for (char b = 32; b < 127; b++) {
                 names.add(first + b);
@@ -435,7 +436,8 @@ public final class CallsEdgesTest {
     }
 
     private static void readTakesTheTape() {
-        Checks.sentence("Promise 4: The TAPE, which is empty then (also if this throws, but for r), is a TERM and END, and no more");
+        Checks.sentence("Promise 4: The TAPE, which is empty then (also if this throws, but for r), is a TERM and END,"
+                + " and no more");
         UnifyBench bench = new UnifyBench();
         Checks.due("read", 1, Checks.read(bench, 0, "a."));
         Checks.due("tape", 0, bench.count(0));

@@ -221,7 +221,8 @@ public final class GrammarEdgesTest {
 
     private static void noOperators() {
         Checks.sentence("OPERATORS: these, and no others");
-        for (String name : new String[] {"/", "^", "**", "?-", "-->", "@<", "=..", "\\", "~", "xor", "//.", "is_", "iS", "!", "[]", "'|'"}) {
+        String[] others = {"/", "^", "**", "?-", "-->", "@<", "=..", "\\", "~", "xor", "//.", "is_", "iS", "!", "[]", "'|'"};
+        for (String name : others) {
             Checks.breaks("a " + name + " b.", 2);
             Checks.breaks(name + " a.", name.length() + 1);
         }
@@ -385,7 +386,8 @@ public final class GrammarEdgesTest {
         deepest("b->", "", 3);
         // What is ended counts no more.
         Checks.reads("[" + Checks.repeated("(a),", 300) + "a].", "[" + Checks.repeated("a,", 300) + "a]", 603);
-        Checks.reads("1" + Checks.repeated("- 1", 300) + ".", Checks.repeated("-(", 300) + "1" + Checks.repeated(",1)", 300), 601);
+        Checks.reads("1" + Checks.repeated("- 1", 300) + ".",
+                Checks.repeated("-(", 300) + "1" + Checks.repeated(",1)", 300), 601);
         String full = Checks.repeated("(", 98) + "f(a,b,c)" + Checks.repeated(")", 98) + ".";
         Checks.reads(full, "f(a,b,c)", 4);
         Checks.breaks(full.replace("c", "- c"), 98 + 8);
