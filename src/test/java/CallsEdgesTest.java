@@ -30,6 +30,7 @@ public final class CallsEdgesTest {
         printedVariables();
         rangeFirst();
         throwsAndChangesNothing();
+        callsLeaveTheRest();
         feedToTheLast();
         endCuts();
         readTakesTheTape();
@@ -360,6 +361,42 @@ public final class CallsEdgesTest {
         changesNothing("undo", NONE, bench -> bench.undo() + bench.undo(), bench -> bench.undo());
         changesNothing("print", BOUNDS, bench -> Checks.read(bench, 6, "[" + Checks.repeated("'a''b',", 480) + "a].")
                 + Checks.printed(bench, 3) + doubled(bench, 6), bench -> bench.print(6));
+    }
+
+    private static String tapeAndRest(UnifyBench bench) {
+        return bench.count(0) + " bytes, " + rest(bench);
+    }
+
+    private static String rest(UnifyBench bench) {
+        return Checks.result(bench) + " at " + bench.count(2);
+    }
+
+    private static void callsLeaveTheRest() {
+        Checks.sentence("Nothing is promised beyond the state changes described");
+        List<Call> calls = List.of(bench -> bench.unify(1, 2), bench -> bench.unify(0, 3), bench -> bench.same(0, 1),
+                bench -> part(bench, 6, 0, 9), bench -> bench.mark(), bench -> bench.undo(), bench -> {
+                    bench.part(6, 0, 2);
+                    bench.reset();
+                    return "";
+                });
+        for (int i = 0; i < calls.size(); i++) {
+            UnifyBench bench = used();
+            String before = tapeAndRest(bench);
+            calls.get(i).on(bench);
+            Checks.due("tape, result and place behind call " + i, before, tapeAndRest(bench));
+        }
+        UnifyBench bench = used();
+        String before = rest(bench);
+        bench.feed(1, 2, 3, 4, 5);
+        bench.end(7);
+        Checks.due("result and place behind feed and end", before, rest(bench));
+        Checks.load(bench, "a.");
+        bench.read(7);
+        Checks.due("result behind read", before.replace(" at 4", " at -1"), rest(bench));
+        Checks.read(bench, 7, "abc d.");
+        Checks.load(bench, "tape");
+        bench.print(3);
+        Checks.due("tape and place behind print", "4 bytes, 12 at 4", tapeAndRest(bench));
     }
 
     private static Object filled(UnifyBench bench, int length) {
