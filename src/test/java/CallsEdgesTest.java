@@ -38,6 +38,7 @@ public final class CallsEdgesTest {
         readTooMuch();
         readLeaves();
         unifyOrStay();
+        refusedIsForgotten();
         sameAsTheyAre();
         partsFromOne();
         thirtyMarks();
@@ -578,6 +579,25 @@ public final class CallsEdgesTest {
         for (int r : NO_REGISTERS) {
             Checks.due("unify " + r, ILLEGAL, () -> bench.unify(r, 0));
             Checks.due("unify .. " + r, ILLEGAL, () -> bench.unify(0, r));
+        }
+    }
+
+    /** What was refused half way must not be gone on with by the next call. */
+    private static void refusedIsForgotten() {
+        Checks.sentence("if not, all stays as it was");
+        UnifyBench bench = Checks.bench("f(a,X,Y).", "f(b,c,d).", "Z.", "Z.", "f(g(V),V,W).", "f(V,b,c).", "[X,Y,V,W].");
+        for (int turn = 0; turn < 2; turn++) {
+            Checks.due("not the first", false, bench.unify(turn, 1 - turn));
+            Checks.due("one with itself", true, bench.unify(2, 3));
+            Checks.due("none became anything", 0, bench.count(3));
+            Checks.due("stands in itself", false, bench.unify(4 + turn, 5 - turn));
+            Checks.due("one with itself", true, bench.unify(2, 3));
+            Checks.due("none became anything", 0, bench.count(3));
+            Checks.due("not the same", false, bench.same(turn, 1 - turn));
+            Checks.due("the same", true, bench.same(2, 3));
+            Checks.due("one with itself", true, bench.unify(2, 3));
+            Checks.due("none became anything", 0, bench.count(3));
+            Checks.due("all of them", "[_0,_1,_2,_3]", Checks.printed(bench, 6));
         }
     }
 
