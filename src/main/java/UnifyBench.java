@@ -1123,8 +1123,10 @@ public final class UnifyBench {
                 term.awaits = TAIL;
                 awaitTerm(PART_LEVEL);
             } else {
+                // A list without a tail ends as one does behind the tail [].
+                term.awaits = TAIL;
                 addAtom(Names.EMPTY);
-                closeList(term);
+                state = BEHIND_INNER;
             }
         }
 
